@@ -9,8 +9,11 @@ import java.util.zip.CRC32;
  * the document's words place by place; every answer of the two must be the same.
  */
 public final class ModelTests {
-    private static final int RUNS = 400;
+    private static final int RUNS = 3000;
+    /** What an object answers after so many calls is free. */
     private static final int CALLS = 512;
+    /** No step of a run makes more calls than this. */
+    private static final int MOST_CALLS_OF_A_STEP = 40;
 
     private static int wrong = 0;
 
@@ -33,13 +36,15 @@ public final class ModelTests {
     private static void playRun(int run, int[] answers) {
         Random random = new Random(run);
         Player player = new Player(run, random);
-        for (int call = 0; call < CALLS && wrong < 20; call++) {
-            int answer = player.callOne();
+        while (player.calls + MOST_CALLS_OF_A_STEP <= CALLS && wrong < 20) {
+            int answer = player.takeStep();
             if (answer != Player.NO_QUERY) {
                 answers[answer < 0 ? -answer : answer > 0 ? 3 : 0]++;
             }
         }
-        player.compareAll();
+        while (player.calls < CALLS) {
+            player.compareOne();
+        }
     }
 
     private static final class Player {
@@ -51,6 +56,7 @@ public final class ModelTests {
         final int patience;
         int reference = 0;
         int position = 0;
+        int calls = 0;
 
         Player(int run, Random random) {
             this.run = run;
@@ -58,7 +64,7 @@ public final class ModelTests {
             this.patience = 1 + random.nextInt(24);
         }
 
-        int callOne() {
+        int takeStep() {
             if (model.disk == null && random.nextInt(10) > 0) {
                 callWhileWriting();
                 return NO_QUERY;
@@ -77,16 +83,14 @@ public final class ModelTests {
             } else if (choice == 16) {
                 add(random.nextInt(4) - 1, anyPlace());
             } else if (choice == 17) {
-                object.scrap();
-                model.scrap();
+                scrap();
             } else if (model.reads.size() >= patience) {
                 same("finish()", object.finish(), model.finish());
             }
         }
 
         void addGoodRead() {
-            object.scrap();
-            model.scrap();
+            scrap();
             int ops = 1 + random.nextInt(3);
             int width = 0;
             for (int i = 0; i < ops; i++) {
@@ -119,10 +123,9 @@ public final class ModelTests {
                     break;
                 case 2:
                     if (random.nextInt(20) == 0) {
-                        object.clear();
-                        model.clear();
-                        reference = 0;
-                        position = 0;
+                        clear();
+                    } else {
+                        same("looked()", object.looked(), model.looked);
                     }
                     break;
                 case 3:
@@ -133,11 +136,8 @@ public final class ModelTests {
                     same("check()", object.check(), model.check());
                     break;
                 case 6:
-                    compareFinding();
-                    break;
                 case 7:
-                    int k = random.nextInt(720) - 5;
-                    same("byteAt(" + k + ")", object.byteAt(k), model.byteAt(k));
+                    compareOne();
                     break;
                 default:
                     return querySome();
@@ -164,7 +164,9 @@ public final class ModelTests {
             int due = model.query(where, beg, end);
             same("query(" + where + ", " + beg + ", " + end + ")", object.query(where, beg, end), due);
             same("looked()", object.looked(), model.looked);
-            compareFinding();
+            for (int i = 0; i < 6; i++) {
+                compareFinding();
+            }
             return due;
         }
 
@@ -185,30 +187,52 @@ public final class ModelTests {
             same("add(" + where + ", " + place + ")", object.add(where, place), model.add(where, place));
         }
 
-        void compareFinding() {
-            for (int k = -1; k <= model.finding.size(); k++) {
-                for (int which = -1; which <= 6; which++) {
-                    same("found(" + k + ", " + which + ")", object.found(k, which), model.found(k, which));
-                }
-                for (int i = -1; i <= 3; i++) {
-                    same("foundOp(" + k + ", " + i + ")", object.foundOp(k, i), model.foundOp(k, i));
-                }
-                for (int i = -1; i <= 24; i++) {
-                    same("foundBase(" + k + ", " + i + ")", object.foundBase(k, i), model.foundBase(k, i));
-                }
-            }
+        void scrap() {
+            object.scrap();
+            model.scrap();
+            calls++;
         }
 
-        void compareAll() {
-            for (int k = -1; k < 720; k++) {
-                same("byteAt(" + k + ")", object.byteAt(k), model.byteAt(k));
+        void clear() {
+            object.clear();
+            model.clear();
+            calls++;
+            reference = 0;
+            position = 0;
+        }
+
+        void compareOne() {
+            if (random.nextBoolean()) {
+                compareFinding();
+                return;
             }
-            same("looked()", object.looked(), model.looked);
-            same("check()", object.check(), model.check());
-            compareFinding();
+            int size = model.disk == null ? 11 : model.disk.length;
+            int k = random.nextInt(size + 6) - 3;
+            same("byteAt(" + k + ")", object.byteAt(k), model.byteAt(k));
+        }
+
+        void compareFinding() {
+            int k = random.nextInt(model.finding.size() + 2) - 1;
+            int i = random.nextInt(8) - 1;
+            switch (random.nextInt(4)) {
+                case 0:
+                    same("foundOp(" + k + ", " + i + ")", object.foundOp(k, i), model.foundOp(k, i));
+                    break;
+                case 1:
+                    i = random.nextInt(27) - 1;
+                    same("foundBase(" + k + ", " + i + ")", object.foundBase(k, i), model.foundBase(k, i));
+                    break;
+                default:
+                    same("found(" + k + ", " + i + ")", object.found(k, i), model.found(k, i));
+            }
         }
 
         void same(String call, int got, int due) {
+            calls++;
+            if (calls > CALLS) {
+                wrong++;
+                System.out.println("run " + run + " has more than " + CALLS + " calls");
+            }
             if (got != due) {
                 wrong++;
                 System.out.println("run " + run + ": " + call + " answered " + got + ", due is " + due);

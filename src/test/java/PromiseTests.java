@@ -37,6 +37,7 @@ public final class PromiseTests {
         foundOpTellsOps();
         foundBaseTellsBases();
         theFindingStaysAfterDamage();
+        theLongestRow();
         theFullStore();
         System.out.println(wrong == 0 ? "all promises hold" : wrong + " answers are not as due");
         if (wrong != 0) {
@@ -401,18 +402,26 @@ public final class PromiseTests {
         }
         due("8 refused ones damage nothing", x.check(), 1);
         for (int k = 0; k < size; k++) {
-            for (int bit = 0; bit < 8; bit++) {
-                int before = x.byteAt(k);
-                due("8 turn", x.turn(k, bit), true);
-                due("8 turned", x.byteAt(k), before ^ (1 << bit));
-                due("8 another bit of the byte", x.turn(k, (bit + 1) % 8), false);
-                due("8 the bit of another byte", x.turn((k + 1) % size, bit), false);
-                due("8 the next byte, one bit lower", x.turn(k + 1, bit - 1), false);
-                due("8 a bit that is not there", x.turn(k, bit + 8), false);
-                due("8 noticed", x.check(), -2);
-                due("8 turn back", x.turn(k, bit), true);
-                due("8 turned back", x.byteAt(k), before);
-            }
+            turnsEachBitOf(k, size);
+        }
+    }
+
+    /** On a new object for each byte: one object is used for at most 512 calls. */
+    private static void turnsEachBitOf(int k, int size) {
+        BinnedReads x = new BinnedReads();
+        putSpan(x, 0, 0, 1);
+        x.finish();
+        for (int bit = 0; bit < 8; bit++) {
+            int before = x.byteAt(k);
+            due("8 turn", x.turn(k, bit), true);
+            due("8 turned", x.byteAt(k), before ^ (1 << bit));
+            due("8 another bit of the byte", x.turn(k, (bit + 1) % 8), false);
+            due("8 the bit of another byte", x.turn((k + 1) % size, bit), false);
+            due("8 the next byte, one bit lower", x.turn(k + 1, bit - 1), false);
+            due("8 a bit that is not there", x.turn(k, bit + 8), false);
+            due("8 noticed", x.check(), -2);
+            due("8 turn back", x.turn(k, bit), true);
+            due("8 turned back", x.byteAt(k), before);
         }
     }
 
@@ -584,15 +593,15 @@ public final class PromiseTests {
     private static void queryNoticesDamageOfWhatItLooksAt() {
         // 16, 16 and 16 bytes of the stream: the third read begins in the first block, place 32,
         // and ends in the second; the fourth (8 bytes) is all in the second.
-        BinnedReads x = new BinnedReads();
-        put(x, 0, 0, 16);
-        put(x, 0, 600, 16);
-        put(x, 0, 1200, 16);
-        putSpan(x, 0, 1800, 1);
-        due("11 size", x.finish(), 51 + 27 + 11);
         for (int k = 0; k < 89; k++) {
             boolean first = k < 51;
             boolean second = k >= 51 && k < 78;
+            BinnedReads x = new BinnedReads();
+            put(x, 0, 0, 16);
+            put(x, 0, 600, 16);
+            put(x, 0, 1200, 16);
+            putSpan(x, 0, 1800, 1);
+            due("11 size", x.finish(), 51 + 27 + 11);
             x.turn(k, k % 8);
             due("11 damage at " + k + ", read 0", x.query(0, 0, 1), first ? -2 : 1);
             due("11 damage at " + k + ", read 1", x.query(0, 600, 601), first ? -2 : 1);
@@ -602,7 +611,6 @@ public final class PromiseTests {
             due("11 damage at " + k + ", none looked at", x.query(0, 3000, 3001), 0);
             due("11 damage at " + k + ", the other reference", x.query(1, 0, 4096), 0);
             due("11 damage at " + k + ", all", x.query(0, 0, 4096), first || second ? -2 : 4);
-            x.turn(k, k % 8);
         }
         aReadMayFillItsBlock();
         aReadMayHaveOneByteInABlock();
@@ -809,27 +817,48 @@ public final class PromiseTests {
         }
     }
 
+    private static void theLongestRow() {
+        BinnedReads x = new BinnedReads();
+        for (int read = 0; read < 3; read++) {
+            x.op(0, 20);
+            x.op(3, 63);
+            x.op(1, 4);
+            for (int i = 0; i < 24; i++) {
+                x.base((read + i) % 16);
+            }
+            due("5 three ops and 24 bases", x.add(1, 70), read);
+        }
+        due("6 three rows of 22 bytes", x.finish(), 66 + 33);
+        due("11 all three", x.query(1, 0, 4096), 3);
+        foundIs(x, 1, 22, 70, 1, 153, 3, 24);
+        due("14 its last op", x.foundOp(1, 2), 17);
+        for (int i = 0; i < 24; i++) {
+            due("15 base " + i, x.foundBase(1, i), (1 + i) % 16);
+        }
+    }
+
+    /** 24 reads of three ops each, with as many bases as the 512 calls of an object leave room for. */
     private static void theFullStore() {
         BinnedReads x = new BinnedReads();
         for (int i = 0; i < 24; i++) {
             x.op(3, 63);
-            x.op(0, 23);
+            x.op(0, 11);
             x.op(1, 1);
-            for (int j = 0; j < 24; j++) {
+            for (int j = 0; j < 12; j++) {
                 x.base((i + j) % 16);
             }
             due("5 read " + i, x.add(i / 12, 100 * (i % 12)), i);
         }
-        due("6 the greatest disk", x.finish(), 24 * 22 + 15 * 11);
+        due("6 a great disk", x.finish(), 24 * 16 + 11 * 11);
         due("10 all", x.check(), 24);
         looksAt(x, 1, 4000, 4001, 0, 0);
         for (int reference = 0; reference < 2; reference++) {
             due("11 all of " + reference, x.query(reference, 0, 4096), 12);
             for (int k = 0; k < 12; k++) {
-                int place = 22 * (12 * reference + k);
+                int place = 16 * (12 * reference + k);
                 due("13 offset", x.found(k, 0), 64 * 51 * (place / 40) + place % 40);
-                due("13 end", x.found(k, 3), 100 * k + 86);
-                due("15 last base", x.foundBase(k, 23), (12 * reference + k + 23) % 16);
+                due("13 end", x.found(k, 3), 100 * k + 74);
+                due("15 last base", x.foundBase(k, 11), (12 * reference + k + 11) % 16);
             }
         }
     }
