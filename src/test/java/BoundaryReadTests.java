@@ -157,15 +157,24 @@ public final class BoundaryReadTests extends BoundaryTest {
         due("the damage stays", x.check(), -2);
     }
 
+    /** The first and the last bit of bytes at the edges and within; all others are refused beside it. */
     private static void anotherBitIsTurned() {
-        BinnedReads x = storeOfSmall(1);
-        due("the first", x.turn(0, 0), true);
-        due("the next bit", x.turn(0, 1), false);
-        due("the last bit of the byte", x.turn(0, 7), false);
-        due("the same bit of the next byte", x.turn(1, 0), false);
-        due("the last bit of all", x.turn(29, 7), false);
-        bytesAre(x, 0, 30, 139);
-        due("the last byte", x.byteAt(29), 0);
+        int[][] turned = {{0, 0}, {0, 7}, {1, 0}, {1, 7}, {14, 3}, {29, 0}, {29, 7}};
+        for (int[] one : turned) {
+            BinnedReads x = storeOfSmall(1);
+            int before = x.byteAt(one[0]);
+            due("turn(" + one[0] + ", " + one[1] + ")", x.turn(one[0], one[1]), true);
+            for (int k = 0; k < 30; k++) {
+                for (int bit = 0; bit <= 7; bit++) {
+                    if (k != one[0] || bit != one[1]) {
+                        due("turn(" + k + ", " + bit + ") beside it", x.turn(k, bit), false);
+                    }
+                }
+            }
+            due("it stays turned", x.byteAt(one[0]), before ^ 1 << one[1]);
+            due("it alone is turned back", x.turn(one[0], one[1]), true);
+            due("check()", x.check(), 1);
+        }
     }
 
     private static void turnedBack() {

@@ -67,6 +67,7 @@ public final class BoundaryWriteTests extends BoundaryTest {
         test("Promise 7", "All is as at first.", BoundaryWriteTests::clearOfADamagedDisk);
         test("Promise 7", "All is as at first.", BoundaryWriteTests::clearOfAFinding);
         test("Promise 7", "All is as at first.", BoundaryWriteTests::aSmallerStoreAfterClear);
+        test("Promise 7", "All is as at first.", BoundaryWriteTests::aGreaterStoreAfterClear);
     }
 
     // Promise 1
@@ -595,6 +596,25 @@ public final class BoundaryWriteTests extends BoundaryTest {
         due("no second base", x.foundBase(0, 1), NONE);
         due("no second read", x.found(1, 0), NONE);
         queryIs(x, 1, 0, 4096, 0, 0);
+    }
+
+    private static void aGreaterStoreAfterClear() {
+        BinnedReads x = new BinnedReads();
+        putBases(x, 1, 4000, 24);
+        x.finish();
+        due("one", x.query(1, 4000, 4001), 1);
+        x.clear();
+        putSmall(x, 11);
+        due("a greater disk", x.finish(), 88 + 44);
+        queryIs(x, 0, 0, 4096, 11, 11);
+        foundIs(x, 0, 0, 0, 9, 1, 1, 0);
+        foundIs(x, 5, 64 * 51, 320, 14, 321, 1, 0);
+        foundIs(x, 10, 64 * 102, 640, 19, 641, 1, 0);
+        queryIs(x, 1, 0, 4096, 0, 0);
+        due("check()", x.check(), 11);
+        x.turn(131, 0);
+        due("check() of its last byte", x.check(), -2);
+        due("no read is in the empty block", x.query(0, 0, 4096), 11);
     }
 
     private static void isAsAtFirst(BinnedReads x) {
